@@ -63,6 +63,15 @@ public final class DaysTest {
         z.lick(1, 0);
         z.seed(65536);
         check.due("a draw of 2 with the lick in the north", z.day(1), 10);
+        // the greatest seed comes behind 230538014: the draw of n is 32767 left over by n: 3 of 4
+        CowLies g = Check.of("meadow 2 1;cow 0 0 1;grass 0 0 0;");
+        g.seed(230538014);
+        check.due("a draw of 3 out of 1, 3", g.day(1), 10);
+        check.due("the greatest seed", g.seed(230538014), 2147483647);
+        // with likings 3 and 1 the last one is drawn by 3 alone
+        CowLies l = Check.of("meadow 2 1;cow 0 0 1;grass 1 0 0;");
+        l.seed(230538014);
+        check.due("a draw of 3 out of 3, 1", l.day(1), 10);
         // with seed 0 the draw is 0: 12345 / 65536
         z.lead(1, 1);
         z.seed(0);

@@ -35,6 +35,8 @@ public final class FaultTest {
         fault(1, "  #cow 0 0 1;");
         fault(1, "#meado 1 1;");
         fault(1, "#meadows 1 1;");
+        fault(1, "#meadowz 1 1;");
+        fault(1, "#xeadow 1 1;");
         fault(1, "#Meadow 1 1;");
         fault(1, "#meadoW 1 1;");
         fault(1, "meadow#W 1 1;");
@@ -121,6 +123,20 @@ public final class FaultTest {
         fault(2, "meadow 2 2;likes 0 #10 0 0;");
         fault(2, "meadow 2 2;likes 0 0 #10 0;");
         fault(2, "meadow 2 2;likes 0 0 0 #10;");
+        // of several the first place
+        fault(2, "meadow #0 0;bull");
+        fault(2, "meadow 2 #0 x");
+        fault(2, "meadow 2 2;grass #9 9 99;");
+        fault(2, "meadow 2 2;grass 0 #9 99;");
+        fault(2, "meadow 2 2;tithe #9 9 999;");
+        fault(2, "meadow 2 2;cow #9 9 99;");
+        fault(2, "meadow 2 2;cow 0 #9 99;");
+        fault(2, "meadow 2 2;cow 0 0 #9;;");
+        fault(2, "meadow 2 2;thing shade #2 2;;");
+        fault(2, "meadow 2 2;likes #10 11 12 13;");
+        fault(2, "meadow 2 2;likes 0 #11 12 13;");
+        fault(2, "meadow 2 2;likes 0 0 #12 13;");
+        fault(2, "meadow 2 2;likes 0 0 0 #13 0;");
         good(1, "meadow 1 1;likes 000 009 09 0;");
         good(9, "meadow 9 1;grass 8 0 0;tithe 8 0 0;cow 8 0 1;");
         good(9, "meadow 1 9;thing shade 0 8;cow 0 8 8;");

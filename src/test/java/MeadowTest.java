@@ -163,6 +163,7 @@ public final class MeadowTest {
         x.write(1, 1, 55);
         x.sow(0, 1, 4);
         x.keep(0);
+        x.keep(1);
         return x;
     }
 
@@ -170,15 +171,17 @@ public final class MeadowTest {
         CowLies x = used();
         int seed = x.seed(5);
         x.seed(seed);
-        Check.feed(x, "meadow 2 2;cow 1 0 2;");
-        check.due("meadow() anew", x.meadow(), 4);
-        int[] told = {2, 2, 0, 1, 2, 10, NONE, NONE, 0, 0, 0, 0, 0};
+        Check.feed(x, "meadow 3 4;cow 1 0 2;");
+        check.due("meadow() anew", x.meadow(), 12);
+        int[] told = {3, 4, 0, 1, 2, 10, NONE, NONE, 0, 0, 0, 0, 0};
         for (int what = 0; what < told.length; what++) check.due("anew: told(" + what + ")", x.told(what), told[what]);
         check.due("anew: goBack(0)", x.goBack(0), NOT);
         check.due("anew: goBack(1)", x.goBack(1), NOT);
         check.due("anew: the seed stays", x.seed(0), seed);
-        check.due("anew: things are gone", x.cell(1, 1, 2), 0);
-        check.due("anew: grass", x.cell(1, 1, 0), 1);
+        check.due("anew: things are gone", x.cell(2, 2, 2), 0);
+        check.due("anew: liking where the lick was", x.cell(2, 1, 4), 3);
+        check.due("anew: grass", x.cell(2, 2, 0), 1);
+        check.due("anew: grass at first", x.cell(0, 1, 1), 1);
         check.due("anew: liking", x.cell(1, 1, 4), 3);
         check.due("anew: tithe", x.cell(0, 0, 3), 1);
     }
@@ -207,6 +210,7 @@ public final class MeadowTest {
         int[] told = {0, 0, 0, 1, 4, NONE, NONE, NONE, 0, 0, 0, 0, 0};
         for (int what = 0; what < told.length; what++) check.due("blanks: told(" + what + ")", x.told(what), told[what]);
         check.due("blanks: goBack(0)", x.goBack(0), NOT);
+        check.due("blanks: goBack(1)", x.goBack(1), NOT);
         check.due("blanks: cell(0, 0, 0)", x.cell(0, 0, 0), UNKNOWN);
         check.due("blanks: mean(0)", x.mean(0), NOT);
         check.due("blanks: lay(-1, -1)", x.lay(-1, -1), 0);

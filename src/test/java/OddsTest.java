@@ -109,6 +109,8 @@ public final class OddsTest {
 
     /** Promise 15: sown in the east with 9: 1 + 2 * 9 = 19 of 22 together. */
     private static void clover() {
+        CowLies fresh = Check.of("meadow 2 1;grass 1 0 0;tithe 0 0 99;tithe 1 0 20;cow 0 0 1;");
+        check.due("clover of a new one", fresh.clover(0, 9, 0), 10);
         CowLies x = Check.of("meadow 2 1;grass 1 0 0;tithe 0 0 99;tithe 1 0 20;cow 0 0 1;");
         check.due("mean(0)", x.mean(0), 24);
         check.due("clover(0, 9, 0)", x.clover(0, 9, 0), 10);
@@ -150,6 +152,9 @@ public final class OddsTest {
 
     /** Promise 16. */
     private static void rests() {
+        CowLies fresh = Check.of("meadow 1 3;cow 0 0 6;");
+        fresh.law(1);
+        check.due("rests of a new one", fresh.rests(NONE, 9), 1);
         CowLies x = Check.of("meadow 2 1;grass 1 0 0;tithe 0 0 99;tithe 1 0 20;cow 0 0 1;");
         check.due("rests(-1, 9)", x.rests(-1, 9), 0);
         check.due("rests(0, 9)", x.rests(0, 9), 10);
@@ -194,6 +199,8 @@ public final class OddsTest {
 
     /** Promise 17. */
     private static void worth() {
+        CowLies fresh = Check.of("meadow 2 1;grass 1 0 0;tithe 0 0 99;tithe 1 0 20;cow 0 0 1;");
+        check.due("worth of a new one", fresh.worth(0, 1, 0), 86 - 24);
         CowLies x = Check.of("meadow 2 1;grass 1 0 0;tithe 0 0 99;tithe 1 0 20;cow 0 0 1;");
         // with the lick in the east 3 of 24 stay: 875000000 * 99 = 86.6
         check.due("worth(0, 1, 0)", x.worth(0, 1, 0), 86 - 24);
@@ -212,6 +219,8 @@ public final class OddsTest {
 
     /** Promise 18. */
     private static void fairest() {
+        CowLies fresh = Check.of("meadow 2 1;grass 1 0 0;tithe 0 0 99;tithe 1 0 20;cow 0 0 1;");
+        check.due("fairest of a new one", fresh.fairest(0), 10);
         // in the east: parish 0 86, parish 1 0.125 * 119 + 0.875 * 20 = 32: 54; in the west: 4 and 114
         CowLies x = Check.of("meadow 2 1;grass 1 0 0;tithe 0 0 99;tithe 1 0 20;cow 0 0 1;");
         check.due("fairest(0)", x.fairest(0), 10);
