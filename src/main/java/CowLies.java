@@ -454,30 +454,36 @@ public final class CowLies {
         }
 
         private boolean readEntry() {
-            if (text.isWord("grass")) return readGrass();
-            if (text.isWord("thing")) return readThing();
-            if (text.isWord("tithe")) return readTithe();
-            if (text.isWord("cow")) return readCow();
-            if (text.isWord("likes")) return readLikes();
+            if (text.isWord("grass")) {
+                grassCount++;
+                return grassCount > MOST_GRASS_TOLD ? fail(TOO_OFTEN) : readValue(grassTold, draft.grass, 9);
+            }
+            if (text.isWord("tithe")) {
+                titheCount++;
+                return titheCount > MOST_TITHES_TOLD ? fail(TOO_OFTEN) : readValue(titheTold, draft.tithe, 99);
+            }
+            if (text.isWord("thing")) {
+                thingCount++;
+                return thingCount > MOST_THINGS_TOLD ? fail(TOO_OFTEN) : readThing();
+            }
+            if (text.isWord("cow")) return cowTold ? fail(TOO_OFTEN) : readCow();
+            if (text.isWord("likes")) return likesTold ? fail(TOO_OFTEN) : readLikes();
             return fail(text.isWord("meadow") ? TOO_OFTEN : MISPLACED);
         }
 
-        private boolean readGrass() {
-            if (grassCount >= MOST_GRASS_TOLD) return fail(TOO_OFTEN);
-            grassCount++;
+        /** A cell and a number that is told of it, each cell once. */
+        private boolean readValue(boolean[] told, int[] values, int most) {
             int c = readCell();
-            if (!draft.has(c)) return false;
-            if (grassTold[c]) return fail(CELL_AGAIN);
-            grassTold[c] = true;
-            int grass = readNumber(0, 9);
-            if (grass < 0) return false;
-            draft.grass[c] = grass;
+            if (!draft.has(c) || c >= told.length || c >= values.length) return false;
+            if (told[c]) return fail(CELL_AGAIN);
+            told[c] = true;
+            int value = readNumber(0, most);
+            if (value < 0) return false;
+            values[c] = value;
             return readStop();
         }
 
         private boolean readThing() {
-            if (thingCount >= MOST_THINGS_TOLD) return fail(TOO_OFTEN);
-            thingCount++;
             text.nextToken();
             int thing = thingOfWord();
             if (thing == 0) return fail(MISPLACED);
@@ -494,21 +500,7 @@ public final class CowLies {
             return text.isWord("flies") ? Land.FLIES : 0;
         }
 
-        private boolean readTithe() {
-            if (titheCount >= MOST_TITHES_TOLD) return fail(TOO_OFTEN);
-            titheCount++;
-            int c = readCell();
-            if (!draft.has(c)) return false;
-            if (titheTold[c]) return fail(CELL_AGAIN);
-            titheTold[c] = true;
-            int tithe = readNumber(0, 99);
-            if (tithe < 0) return false;
-            draft.tithe[c] = tithe;
-            return readStop();
-        }
-
         private boolean readCow() {
-            if (cowTold) return fail(TOO_OFTEN);
             cowTold = true;
             int c = readCell();
             if (!draft.has(c)) return false;
@@ -520,7 +512,6 @@ public final class CowLies {
         }
 
         private boolean readLikes() {
-            if (likesTold) return fail(TOO_OFTEN);
             likesTold = true;
             int grass = readNumber(0, 9);
             if (grass < 0) return false;

@@ -77,7 +77,7 @@ public final class DaysTest {
         z.seed(0);
         check.due("a draw of 0", z.day(1), 11);
         check.due("the seed behind it", z.seed(0), 12345);
-        // each hour what is eaten counts: 9 9 to begin with, two hours of draw 0
+        // a draw each hour, where there is but one cell, too
         CowLies e = Check.of("meadow 1 1;grass 0 0 2;cow 0 0 8;");
         e.seed(2147483647);
         e.day(1);

@@ -129,7 +129,7 @@ public final class OddsTest {
         check.due("nothing gained", alike.clover(0, 5, 1), 0);
         CowLies below = Check.of("meadow 1 1;tithe 0 0 50;");
         check.due("one cell gains nothing", below.clover(1, 9, 1), 0);
-        losing();
+        nothingToGain();
         check.due("clover(2, 1, 0)", x.clover(2, 1, 0), UNKNOWN);
         check.due("clover(-1, 0, 0)", x.clover(-1, 0, 0), UNKNOWN);
         check.due("clover(0, 0, 0)", x.clover(0, 0, 0), OUTSIDE);
@@ -138,13 +138,13 @@ public final class OddsTest {
         check.due("clover(0, 1, -1)", x.clover(0, 1, -1), OUTSIDE);
     }
 
-    /** Every cell that is sown can lose: what is gained is below 0. */
-    private static void losing() {
-        // from the middle cell: stay, east, west; parish 1 has 40 by the west, 40 by the middle, 40 by the east
+    /** Where no clover changes anything. */
+    private static void nothingToGain() {
+        // parish 1 has 40 by either border
         CowLies x = Check.of("meadow 2 1;grass 0 0 9;grass 1 0 9;tithe 0 0 0;tithe 1 0 40;cow 0 0 1;");
         check.due("no border changes what parish 1 has", x.mean(1), 40);
+        check.due("clover(1, 9, 0)", x.clover(1, 9, 0), 0);
         check.due("clover(1, 9, 1)", x.clover(1, 9, 1), 0);
-        // law 2 by 1,0: parish 0 has 0,0; grass full at 18: sowing there changes nothing
         CowLies full = Check.of("meadow 1 1;grass 0 0 9;");
         full.sow(0, 0, 9);
         check.due("clover on full grass", full.clover(0, 9, 1), 0);

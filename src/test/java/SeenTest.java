@@ -44,6 +44,11 @@ public final class SeenTest {
         check.due("lay(10000, -1)", x.lay(10000, -1), OUTSIDE);
         check.due("lay(9999, -1)", x.lay(9999, -1), 0);
         check.due("lay(9999, 0)", x.lay(9999, 0), NONE);
+        x.lead(0, 0);
+        check.due("in the corner", x.lay(NONE, NONE), 3);
+        x.lead(4, 2);
+        check.due("in the other corner", x.lay(NONE, NONE), 3);
+        check.due("the first there", x.lay(NONE, 0), 41);
         // odds that are cut away leave what can be
         CowLies rare = Check.of("meadow 9 1;cow 0 0 8;likes 9 0 0 9;" + noGrassTo(9));
         rare.sow(0, 0, 9);
