@@ -1,13 +1,12 @@
-/** Promises 8 to 12: day, law, sow, lead, lick. */
+/** Promises 8 to 12: day, law, sow, lead, lick; their edges stand in EdgesDaysTest. */
 public final class DaysTest {
     private static final Check check = new Check();
-    private static final int NONE = Check.NONE, UNKNOWN = Check.UNKNOWN, OUTSIDE = Check.OUTSIDE;
+    private static final int NONE = Check.NONE;
 
     public static void main(String[] args) {
         oneCellForDays();
         drawsByHand();
         bordersFillPurses();
-        dayIsRefused();
         mostDays();
         laws();
         clover();
@@ -16,7 +15,7 @@ public final class DaysTest {
         check.end();
     }
 
-    /** On one cell: she eats each hour, one grows by night, up to what was at first. */
+    /** Promise 8, Terms 2 (A MORNING). On one cell: she eats each hour, one grows by night, up to what was at first. */
     private static void oneCellForDays() {
         CowLies x = Check.of("meadow 1 1;grass 0 0 9;tithe 0 0 7;cow 0 0 3;");
         check.due("day(1)", x.day(1), 0);
@@ -38,7 +37,7 @@ public final class DaysTest {
     }
 
     /**
-     * The seed 65536 becomes 65536 * 1103515245 + 12345, left over by 2 to the 31:
+     * Promise 8, Terms 3 (BY DRAWS). The seed 65536 becomes 65536 * 1103515245 + 12345, left over by 2 to the 31:
      * 20077 * 65536 + 12345 (1103515245 left over by 32768 is 20077): the draw of n is 20077 left over by n.
      */
     private static void drawsByHand() {
@@ -81,18 +80,10 @@ public final class DaysTest {
         CowLies e = Check.of("meadow 1 1;grass 0 0 2;cow 0 0 8;");
         e.seed(2147483647);
         e.day(1);
-        check.due("eight draws by the greatest seed", e.seed(0), seedAfter(2147483647, 8));
+        check.due("eight draws by the greatest seed", e.seed(0), Check.seedBehind(2147483647, 8));
     }
 
-    private static int seedAfter(int seed, int draws) {
-        java.math.BigInteger s = java.math.BigInteger.valueOf(seed);
-        for (int i = 0; i < draws; i++) {
-            s = s.multiply(java.math.BigInteger.valueOf(1103515245)).add(java.math.BigInteger.valueOf(12345));
-            s = s.mod(java.math.BigInteger.TWO.pow(31));
-        }
-        return s.intValue();
-    }
-
+    /** Promise 8, Terms 2 (PURSE). */
     private static void bordersFillPurses() {
         CowLies x = Check.of("meadow 3 2;tithe 0 0 1;tithe 1 0 2;tithe 2 0 4;tithe 0 1 8;tithe 1 1 16;tithe 2 1 32;");
         int[] purses = {0, 0};
@@ -108,15 +99,7 @@ public final class DaysTest {
         }
     }
 
-    private static void dayIsRefused() {
-        CowLies x = Check.of("meadow 2 2;");
-        String before = Check.stateOf(x);
-        check.refused(x, before, "day(0)", x.day(0), OUTSIDE);
-        check.refused(x, before, "day(100)", x.day(100), OUTSIDE);
-        check.refused(x, before, "day(-1)", x.day(-1), OUTSIDE);
-        check.refused(x, before, "day(greatest)", x.day(Integer.MAX_VALUE), OUTSIDE);
-    }
-
+    /** Promise 8: as many days as an object is used for, and n MORNINGS alike n times one. */
     private static void mostDays() {
         CowLies x = Check.of("meadow 8 5;cow 4 2 8;" + richTithes());
         CowLies y = Check.of("meadow 8 5;cow 4 2 8;" + richTithes());
@@ -142,9 +125,6 @@ public final class DaysTest {
         check.due("law(2)", x.law(2), 0);
         check.due("law(0)", x.law(0), 2);
         check.due("law(1)", x.law(1), 0);
-        String before = Check.stateOf(x);
-        check.refused(x, before, "law(3)", x.law(3), OUTSIDE);
-        check.refused(x, before, "law(-1)", x.law(-1), OUTSIDE);
         check.due("told(3)", x.told(3), 1);
     }
 
@@ -163,13 +143,6 @@ public final class DaysTest {
         check.due("sow(0, 0, 9)", y.sow(0, 0, 9), 11);
         check.due("at first", y.cell(0, 0, 1), 18);
         check.due("sow(0, 0, 9)", y.sow(0, 0, 9), 18);
-        CowLies z = Check.of("meadow 2 2;");
-        String before = Check.stateOf(z);
-        check.refused(z, before, "sow(2, 0, 1)", z.sow(2, 0, 1), UNKNOWN);
-        check.refused(z, before, "sow(0, 2, 1)", z.sow(0, 2, 1), UNKNOWN);
-        check.refused(z, before, "sow(0, -1, 10)", z.sow(0, -1, 10), UNKNOWN);
-        check.refused(z, before, "sow(0, 0, 0)", z.sow(0, 0, 0), OUTSIDE);
-        check.refused(z, before, "sow(0, 0, 10)", z.sow(0, 0, 10), OUTSIDE);
     }
 
     /** Promise 11. */
@@ -179,10 +152,6 @@ public final class DaysTest {
         check.due("lead(8, 1) again", x.lead(8, 1), 81);
         check.due("lead(0, 0)", x.lead(0, 0), 81);
         check.due("told(5)", x.told(5), 0);
-        String before = Check.stateOf(x);
-        check.refused(x, before, "lead(9, 0)", x.lead(9, 0), UNKNOWN);
-        check.refused(x, before, "lead(0, 2)", x.lead(0, 2), UNKNOWN);
-        check.refused(x, before, "lead(-1, 0)", x.lead(-1, 0), UNKNOWN);
     }
 
     /** Promise 12. */
@@ -195,10 +164,6 @@ public final class DaysTest {
         check.due("liking where it was", x.cell(0, 0, 4), 3);
         x.day(5);
         check.due("it stays", x.told(7), 81);
-        String before = Check.stateOf(x);
-        check.refused(x, before, "lick(9, 0)", x.lick(9, 0), UNKNOWN);
-        check.refused(x, before, "lick(0, 2)", x.lick(0, 2), UNKNOWN);
-        check.refused(x, before, "lick(0, -1)", x.lick(0, -1), UNKNOWN);
         check.due("lick(8, 1)", x.lick(8, 1), 81);
     }
 }

@@ -1,7 +1,6 @@
-/** Promises 3 and 4: each fault at its byte. */
+/** Promises 3 and 4, Terms 1 (FAULTS): each fault at its byte; the edges stand in EdgesMeadowTest. */
 public final class FaultTest {
     private static final Check check = new Check();
-    private static final CowLies x = new CowLies();
 
     public static void main(String[] args) {
         cannotStandThere();
@@ -16,16 +15,17 @@ public final class FaultTest {
     /** The fault is due at the place of the first '#', which is left out of the text. */
     private static void fault(int number, String marked) {
         String text = marked.replace("#", "");
-        Check.feed(x, text);
-        check.due("meadow() of " + text, x.meadow(), -10 - number);
+        CowLies x = new CowLies();
+        check.due("meadow() of " + text, Check.meadow(x, text), -10 - number);
         check.due("fault() of " + text, x.fault(), marked.indexOf('#'));
         check.due("no text behind " + text, x.told(2), 0);
     }
 
-    private static void good(int cells, String text) {
-        Check.feed(x, text);
-        check.due("meadow() of " + text, x.meadow(), cells);
+    private static CowLies good(int cells, String text) {
+        CowLies x = new CowLies();
+        check.due("meadow() of " + text, Check.meadow(x, text), cells);
         check.due("fault() of " + text, x.fault(), Check.NONE);
+        return x;
     }
 
     private static void cannotStandThere() {
@@ -167,7 +167,7 @@ public final class FaultTest {
         fault(3, meadow + entries("thing water", 15, "") + "#thing bull");
         fault(3, meadow + entries("thing water", 8, "") + entries("thing flies", 7, "") + "#thing shade 0 0;");
         good(40, meadow + entries("grass", 20, " 2") + entries("tithe", 20, " 3"));
-        good(40, meadow + entries("thing water", 8, "") + entries("thing flies", 7, ""));
+        CowLies x = good(40, meadow + entries("thing water", 8, "") + entries("thing flies", 7, ""));
         check.due("the 15th thing", x.cell(6, 0, 2), 6);
         fault(1, meadow + entries("grass", 20, " 2") + "#grasses");
     }
@@ -181,8 +181,9 @@ public final class FaultTest {
         fault(2, "meadow 2 2;grass 1 0 1;grass 1 #0000 1;");
         good(4, "meadow 2 2;grass 1 0 1;tithe 1 0 1;thing shade 1 0;thing water 1 0;thing flies 1 0;cow 1 0 1;");
         // what one text told is not told again by the next one
-        good(4, "meadow 2 2;grass 1 0 1;tithe 1 0 1;thing shade 1 0;cow 1 0 1;likes 1 1 1 1;");
-        good(4, "meadow 2 2;grass 1 0 1;tithe 1 0 1;thing shade 1 0;cow 1 0 1;likes 1 1 1 1;");
+        String text = "meadow 2 2;grass 1 0 1;tithe 1 0 1;thing shade 1 0;cow 1 0 1;likes 1 1 1 1;";
+        CowLies x = good(4, text);
+        check.due("the same text again", Check.meadow(x, text), 4);
     }
 
     private static void mostThatIsTaken() {

@@ -1,13 +1,12 @@
-/** Promises 25 to 27: seed, keep, goBack. */
+/** Promises 25 to 27: seed, keep, goBack; their edges stand in EdgesImagesTest. */
 public final class ImagesTest {
     private static final Check check = new Check();
-    private static final int NONE = Check.NONE, UNKNOWN = Check.UNKNOWN, OUTSIDE = Check.OUTSIDE, NOT = Check.NOT;
+    private static final int NONE = Check.NONE, OUTSIDE = Check.OUTSIDE, NOT = Check.NOT;
 
     public static void main(String[] args) {
         seeds();
         images();
         whatImagesDoNotKeep();
-        refused();
         check.end();
     }
 
@@ -31,11 +30,11 @@ public final class ImagesTest {
     }
 
     private static CowLies used() {
-        CowLies x = Check.of("meadow 3 3;cow 1 1 3;grass 0 0 9;tithe 2 2 9;");
+        CowLies x = Check.of("meadow 3 2;cow 1 1 3;grass 0 0 9;tithe 2 1 9;");
         x.seed(5);
         x.law(2);
         x.sow(1, 0, 6);
-        x.lick(1, 2);
+        x.lick(1, 1);
         x.day(4);
         return x;
     }
@@ -50,8 +49,8 @@ public final class ImagesTest {
         check.due("keep(1)", x.keep(1), 1);
         x.law(0);
         x.lick(0, 0);
-        x.sow(2, 2, 9);
-        x.lead(2, 2);
+        x.sow(2, 1, 9);
+        x.lead(2, 1);
         x.seed(1);
         x.day(2);
         check.due("goBack(0)", x.goBack(0), 1);
@@ -68,6 +67,7 @@ public final class ImagesTest {
         check.dueText("gone back to the new 0", Check.stateOf(x), later);
     }
 
+    /** Promises 26 and 27, Terms 3 (IMAGES): what is SEEN, THE BOOK and THE TEXT are not kept. */
     private static void whatImagesDoNotKeep() {
         CowLies x = used();
         x.see(1, 1, 0);
@@ -93,18 +93,5 @@ public final class ImagesTest {
         check.due("told(6)", empty.told(6), NONE);
         check.due("meadow() of nothing", empty.meadow(), 0);
         check.due("images are gone by no cells, too", empty.goBack(0), NOT);
-    }
-
-    private static void refused() {
-        CowLies x = used();
-        x.keep(1);
-        x.day(1);
-        String before = Check.stateOf(x);
-        check.refused(x, before, "keep(2)", x.keep(2), UNKNOWN);
-        check.refused(x, before, "keep(-1)", x.keep(-1), UNKNOWN);
-        check.refused(x, before, "goBack(2)", x.goBack(2), UNKNOWN);
-        check.refused(x, before, "goBack(-1)", x.goBack(-1), UNKNOWN);
-        check.refused(x, before, "goBack(0)", x.goBack(0), NOT);
-        check.refused(x, before, "seed(-1)", x.seed(-1), OUTSIDE);
     }
 }

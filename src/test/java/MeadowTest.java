@@ -1,4 +1,4 @@
-/** Promises 1 to 7: a new object, feed, meadow, fault, told, cell, tithes. */
+/** Promises 1 to 7: a new object, feed, meadow, fault, told, cell, tithes; their edges stand in EdgesMeadowTest. */
 public final class MeadowTest {
     private static final Check check = new Check();
     private static final int NONE = Check.NONE, UNKNOWN = Check.UNKNOWN, OUTSIDE = Check.OUTSIDE, NOT = Check.NOT, FULL = Check.FULL;
@@ -19,6 +19,7 @@ public final class MeadowTest {
         check.end();
     }
 
+    /** Terms, head: NONE and the REFUSALS. */
     private static void constants() {
         check.due("NONE", CowLies.NONE, -1);
         check.due("UNKNOWN", CowLies.UNKNOWN, -1000000001);
@@ -27,38 +28,12 @@ public final class MeadowTest {
         check.due("FULL", CowLies.FULL, -1000000004);
     }
 
-    /** Promise 1, and what every call answers without cells. */
+    /** Promise 1, and what is not refused without cells. */
     private static void newObject() {
         CowLies x = new CowLies();
         int[] told = {0, 0, 0, 0, 4, NONE, NONE, NONE, 0, 0, 0, 0, 0};
         for (int what = 0; what < told.length; what++) check.due("new: told(" + what + ")", x.told(what), told[what]);
         check.due("new: fault()", x.fault(), NONE);
-        String before = Check.stateOf(x);
-        check.refused(x, before, "new: cell(0, 0, 0)", x.cell(0, 0, 0), UNKNOWN);
-        check.refused(x, before, "new: cell(0, 0, 9)", x.cell(0, 0, 9), UNKNOWN);
-        check.refused(x, before, "new: tithes(0, 0, 0)", x.tithes(0, 0, 0), UNKNOWN);
-        check.refused(x, before, "new: day(1)", x.day(1), NOT);
-        check.refused(x, before, "new: day(0)", x.day(0), OUTSIDE);
-        check.refused(x, before, "new: sow(0, 0, 1)", x.sow(0, 0, 1), UNKNOWN);
-        check.refused(x, before, "new: lead(0, 0)", x.lead(0, 0), UNKNOWN);
-        check.refused(x, before, "new: lick(0, 0)", x.lick(0, 0), UNKNOWN);
-        check.refused(x, before, "new: odds(0, 0, 0)", x.odds(0, 0, 0), UNKNOWN);
-        check.refused(x, before, "new: mean(0)", x.mean(0), NOT);
-        check.refused(x, before, "new: mean(2)", x.mean(2), UNKNOWN);
-        check.refused(x, before, "new: clover(1, 9, 1)", x.clover(1, 9, 1), NOT);
-        check.refused(x, before, "new: clover(1, 10, 1)", x.clover(1, 10, 1), OUTSIDE);
-        check.refused(x, before, "new: clover(2, 10, 1)", x.clover(2, 10, 1), UNKNOWN);
-        check.refused(x, before, "new: rests(-1, 1)", x.rests(-1, 1), NOT);
-        check.refused(x, before, "new: rests(-1, 0)", x.rests(-1, 0), OUTSIDE);
-        check.refused(x, before, "new: rests(-2, 0)", x.rests(-2, 0), UNKNOWN);
-        check.refused(x, before, "new: worth(0, 0, 0)", x.worth(0, 0, 0), UNKNOWN);
-        check.refused(x, before, "new: fairest(1)", x.fairest(1), NOT);
-        check.refused(x, before, "new: fairest(2)", x.fairest(2), OUTSIDE);
-        check.refused(x, before, "new: watch(2)", x.watch(2), NOT);
-        check.refused(x, before, "new: watch(3)", x.watch(3), OUTSIDE);
-        check.refused(x, before, "new: see(0, 0, 0)", x.see(0, 0, 0), UNKNOWN);
-        check.refused(x, before, "new: write(0, 0, 0)", x.write(0, 0, 0), UNKNOWN);
-        check.refused(x, before, "new: goBack(0)", x.goBack(0), NOT);
         check.due("new: lay(-1, -1)", x.lay(-1, -1), 0);
         check.due("new: lay(-1, 0)", x.lay(-1, 0), NONE);
         check.due("new: judge()", x.judge(), NONE);
@@ -81,9 +56,9 @@ public final class MeadowTest {
         check.due("feed(greatest)", x.feed(Integer.MAX_VALUE, -1), OUTSIDE);
         check.due("nothing fed", x.told(2), 0);
         // the highest byte of six is not one of the lowest five: 'X' is left out
-        check.due("feed(5, ..)", x.feed(5, bytes("Xmeado")), 5);
-        check.due("feed(1, ..)", x.feed(1, bytes("Yw")), 6);
-        check.due("feed(8, ..)", x.feed(8, bytes(" 3 2 ;  ")), 14);
+        check.due("feed(5, ..)", x.feed(5, Check.bytes("Xmeado")), 5);
+        check.due("feed(1, ..)", x.feed(1, Check.bytes("Yw")), 6);
+        check.due("feed(8, ..)", x.feed(8, Check.bytes(" 3 2 ;  ")), 14);
         check.due("told(2)", x.told(2), 14);
         check.due("meadow()", x.meadow(), 6);
         check.due("told(2) behind meadow()", x.told(2), 0);
@@ -97,25 +72,20 @@ public final class MeadowTest {
         check.due("fault() of eight 255s", x.fault(), 0);
     }
 
-    private static long bytes(String text) {
-        long bytes = 0;
-        for (int i = 0; i < text.length(); i++) bytes = bytes << 8 | text.charAt(i);
-        return bytes;
-    }
-
+    /** Promise 2: FULL (500); promise 3: THE TEXT is empty then. */
     private static void fullText() {
         CowLies x = new CowLies();
         Check.feed(x, "meadow 9 4;");
         Check.feed(x, " ".repeat(481));
         check.due("told(2)", x.told(2), 492);
-        check.due("feed(8) to 500", x.feed(8, bytes("        ")), 500);
+        check.due("feed(8) to 500", x.feed(8, Check.bytes("        ")), 500);
         check.due("feed(1) of 501", x.feed(1, ' '), FULL);
         check.due("feed(0) when full", x.feed(0, ' '), OUTSIDE);
         check.due("told(2) full", x.told(2), 500);
         check.due("meadow() of 500 bytes", x.meadow(), 36);
         Check.feed(x, " ".repeat(496));
         check.due("feed(5) behind 496", x.feed(5, 0), FULL);
-        check.due("feed(4) behind 496", x.feed(4, bytes("meat")), 500);
+        check.due("feed(4) behind 496", x.feed(4, Check.bytes("meat")), 500);
         check.due("meadow()", x.meadow(), -11);
         check.due("fault()", x.fault(), 496);
         Check.feed(x, " ".repeat(494) + "meadow");
@@ -167,6 +137,7 @@ public final class MeadowTest {
         return x;
     }
 
+    /** Promise 3: what a new meadow leaves and what it begins anew. */
     private static void aNewMeadowBeginsAnew() {
         CowLies x = used();
         int seed = x.seed(5);
@@ -186,22 +157,20 @@ public final class MeadowTest {
         check.due("anew: tithe", x.cell(0, 0, 3), 1);
     }
 
+    /** Promise 3: with a FAULT all else is as it was. */
     private static void aFaultLeavesAllElse() {
         CowLies x = used();
-        String before = Check.stateOf(x);
-        Check.feed(x, "meadow 2 2;grass 0 0 3;thing shade 1 1;tithe 1 1 9;cow 1 1 1;likes 9 9 9 9;bull");
-        check.due("meadow() with a fault", x.meadow(), -11);
+        int answer = Check.meadow(x, "meadow 2 2;grass 0 0 3;thing shade 1 1;tithe 1 1 9;cow 1 1 1;likes 9 9 9 9;bull");
+        check.due("meadow() with a fault", answer, -11);
         check.due("fault()", x.fault(), 75);
-        Check.feed(x, "");
-        // all but the place of the fault is as it was
-        String behind = Check.stateOf(x);
-        check.dueText("behind a fault", behind.replaceFirst("75", "-1"), before);
-        check.due("the image is still kept", x.goBack(0), 1);
-        Check.feed(x, "meadow 1 1;");
-        check.due("meadow() mended", x.meadow(), 1);
-        check.due("fault() mended", x.fault(), NONE);
+        check.dueText("behind a fault", Check.stateButFault(x), Check.stateButFault(used()));
+        CowLies y = used();
+        Check.meadow(y, "bull");
+        check.due("meadow() mended", Check.meadow(y, "meadow 1 1;"), 1);
+        check.due("fault() mended", y.fault(), NONE);
     }
 
+    /** Promise 3, Terms 1: an empty text, or one of blanks alone. */
     private static void blanksAloneAreNoCells() {
         CowLies x = used();
         Check.feed(x, "   ");
@@ -259,6 +228,7 @@ public final class MeadowTest {
         check.due("cell(low, low, 0)", x.cell(Integer.MIN_VALUE, Integer.MIN_VALUE, 0), UNKNOWN);
     }
 
+    /** Promise 6, Terms 2 (LIKING). */
     private static void likings() {
         CowLies x = Check.of("meadow 4 1;grass 0 0 0;thing flies 0 0;grass 1 0 0;thing shade 2 0;thing water 3 0;likes 3 5 7 9;");
         check.due("flies: 1 at least", x.cell(0, 0, 4), 1);
@@ -272,7 +242,7 @@ public final class MeadowTest {
         check.due("the lick by water", x.cell(3, 0, 4), 31);
     }
 
-    /** Promise 7: each law, the border's own cell, cells as far as it. */
+    /** Promise 7, Terms 2 (BORDER): each law, the border's own cell, cells as far as it. */
     private static void tithesByLaws() {
         // tithes:  1  2  4
         //          8 16 32

@@ -1,42 +1,51 @@
 import java.util.Random;
 
-/** Runs of many calls, ordinary and wrong ones, on the class and on the model: all answers alike. */
+/** Promises 1 to 27: runs of up to 512 calls, ordinary and wrong ones, on the class and on the model: all answers alike. */
 public final class ModelTest {
     private static final Check check = new Check();
     private static Random random;
     private static CowLies x;
     private static Model m;
     private static int width, height;
+    /** Calls of the object so far: what those behind the 512th answer is free. */
+    private static int calls;
 
     public static void main(String[] args) {
-        int runs = args.length > 0 ? Integer.parseInt(args[0]) : 150;
+        int runs = args.length > 0 ? Integer.parseInt(args[0]) : 300;
         for (int run = 0; run < runs; run++) {
             random = new Random(run);
-            x = new CowLies();
-            m = new Model();
-            width = 1;
-            height = 1;
-            int calls = 0;
-            for (; calls < 400; calls++) {
+            begin();
+            int next = 0;
+            while (calls < 499) {
                 String at = "run " + run + ", call " + calls + ": ";
-                if (calls % 100 == 0 || random.nextInt(150) == 0) tell(at);
-                else anyCall(at, random.nextInt(28));
+                if (calls >= next || random.nextInt(200) == 0) {
+                    tell(at, calls == 0);
+                    next = calls + 150 + random.nextInt(300);
+                } else {
+                    anyCall(at, random.nextInt(28));
+                }
             }
-            for (int what = 0; what <= 12; what++) both("told " + what, x.told(what), m.told(what));
+            for (int what = 0; what <= 12; what++) both("run " + run + ", told " + what, x.told(what), m.told(what));
         }
         for (int i = 0; i < 20 * runs; i++) {
             random = new Random(1000000 + i);
-            if (i % 20 == 0) {
-                x = new CowLies();
-                m = new Model();
-            }
-            tell("text " + i + ": ");
+            if (i % 3 == 0 || calls > 300) begin();
+            tell("text " + i + ": ", true);
         }
         check.end();
     }
 
+    private static void begin() {
+        x = new CowLies();
+        m = new Model();
+        width = 1;
+        height = 1;
+        calls = 0;
+    }
+
     private static void both(String call, long got, long want) {
-        check.due(call, got, want);
+        calls++;
+        if (calls <= 512) check.due(call, got, want);
     }
 
     private static int upTo(int most) {
@@ -57,7 +66,7 @@ public final class ModelTest {
 
     // ---- texts
 
-    private static void tell(String at) {
+    private static void tell(String at, boolean lookAtCells) {
         String text = randomText();
         if (random.nextInt(4) == 0) text = spoilt(text);
         if (text.length() > 500) text = text.substring(0, 500);
@@ -72,10 +81,8 @@ public final class ModelTest {
         both(at + "fault() of " + text, x.fault(), m.fault());
         width = Math.max(1, m.told(0));
         height = Math.max(1, m.told(1));
-        for (int y = 0; y < height; y++) {
-            for (int column = 0; column < width; column++) {
-                for (int what = 0; what <= 4; what++) both(at + "cell " + what, x.cell(column, y, what), m.cell(column, y, what));
-            }
+        for (int c = 0; lookAtCells && c < width * height; c++) {
+            for (int what = 0; what <= 4; what++) both(at + "cell " + what, x.cell(c % width, c / width, what), m.cell(c % width, c / width, what));
         }
         both(at + "told 4", x.told(4), m.told(4));
         both(at + "told 5", x.told(5), m.told(5));

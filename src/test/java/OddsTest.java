@@ -1,4 +1,4 @@
-/** Promises 13 to 19: odds, mean, clover, rests, worth, fairest, watch. */
+/** Promises 13 to 19: odds, mean, clover, rests, worth, fairest, watch; their edges stand in EdgesOddsTest. */
 public final class OddsTest {
     private static final Check check = new Check();
     private static final int NONE = Check.NONE, UNKNOWN = Check.UNKNOWN, OUTSIDE = Check.OUTSIDE;
@@ -46,6 +46,7 @@ public final class OddsTest {
         check.due("eaten grass counts", eaten.odds(0, 0, 1), 1000000000L * (1 + grass) / (2 + grass + eaten.cell(1, 0, 0)));
     }
 
+    /** Promise 13: times LIKING / all LIKINGS (cut), the rest for the last one. */
     private static void theRestIsForTheLast() {
         CowLies row = Check.of("meadow 3 1;cow 1 0 1;");
         check.due("stay", row.odds(1, 0, 1), 333333333);
@@ -64,10 +65,12 @@ public final class OddsTest {
         check.due("north 1 of 25", cross.odds(1, 0, 1), 40000000);
     }
 
+    /** Promise 13: of a BILLION. */
     private static void oddsAddUp() {
-        CowLies x = Check.of("meadow 8 5;cow 3 2 8;likes 9 9 9 9;thing flies 3 3;thing water 5 1;grass 7 4 9;");
-        x.sow(7, 4, 9);
+        CowLies x = null;
         for (int h = 0; h <= 12; h++) {
+            x = Check.of("meadow 8 5;cow 3 2 8;likes 9 9 9 9;thing flies 3 3;thing water 5 1;grass 7 4 9;");
+            x.sow(7, 4, 9);
             long all = 0;
             for (int y = 0; y < 5; y++) {
                 for (int column = 0; column < 8; column++) all += x.odds(column, y, h);
@@ -78,6 +81,7 @@ public final class OddsTest {
         check.holds("reached", x.odds(7, 4, 6) > 0);
     }
 
+    /** Promise 13: UNKNOWN, OUTSIDE. */
     private static void oddsAreRefused() {
         CowLies x = Check.of("meadow 2 2;");
         check.due("odds(0, 0, 13)", x.odds(0, 0, 13), OUTSIDE);
@@ -138,7 +142,7 @@ public final class OddsTest {
         check.due("clover(0, 1, -1)", x.clover(0, 1, -1), OUTSIDE);
     }
 
-    /** Where no clover changes anything. */
+    /** Promise 15: where no clover changes anything. */
     private static void nothingToGain() {
         // parish 1 has 40 by either border
         CowLies x = Check.of("meadow 2 1;grass 0 0 9;grass 1 0 9;tithe 0 0 0;tithe 1 0 40;cow 0 0 1;");
@@ -170,7 +174,7 @@ public final class OddsTest {
         check.due("rests(1, 10)", x.rests(1, 10), OUTSIDE);
     }
 
-    /** Meadows of which neither rests at once, and one of which neither ever does. */
+    /** Promise 16: meadows of which neither rests at once, and one of which neither ever does. */
     private static void roundsAndNever() {
         /*
          * By hand: tithes of parish 0 by X are X. As if the other sowed nothing 3 is best for parish 0
